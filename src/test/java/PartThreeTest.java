@@ -42,6 +42,9 @@ public final class PartThreeTest {
         Check.due("never(1)", g.never(1), 2);
         Check.due("never(2)", g.never(2), -2);
         Check.due("never(-1)", g.never(-1), -2);
+        g = Check.gate("l1001;l1012;l1034;p002;p001;");
+        Check.due("the other way: never(0)", g.never(0), 4);
+        Check.due("the other way: never(1)", g.never(1), 2);
         g = Check.gate("l1001;l1012;l1034;");
         Check.due("never(0) without PEOPLE", g.never(0), 7);
         Check.due("never(1) without PEOPLE", g.never(1), 0);
@@ -67,10 +70,10 @@ public final class PartThreeTest {
     }
 
     private static void dropped() {
-        SearchedAtTheGate g = Check.gate(CHAIN_OF_THREE + "p001;p003;p000;p008;p006;");
-        int[] due = {0, 1, -9, -9, 1};
-        for (int person = 0; person < 5; person++) Check.due("dropped(" + person + ")", g.dropped(person), due[person]);
-        Check.due("dropped(5)", g.dropped(5), -1);
+        SearchedAtTheGate g = Check.gate(CHAIN_OF_THREE + "p001;p003;p000;p008;p006;p004;");
+        int[] due = {0, 1, -9, -9, 1, 2};
+        for (int person = 0; person < 6; person++) Check.due("dropped(" + person + ")", g.dropped(person), due[person]);
+        Check.due("dropped(6)", g.dropped(6), -1);
         Check.due("dropped(-1)", g.dropped(-1), -1);
     }
 
@@ -106,6 +109,8 @@ public final class PartThreeTest {
         Check.due("latest(0, -1)", g.latest(0, -1), -1);
         g = Check.gate("l0001;l1305;p001;");
         Check.due("never in time", g.latest(0, 1), -9);
+        g = Check.gate("l1002;l0001;p001;");
+        Check.due("at once or never", g.latest(0, 0), 0);
         g = Check.gate("l1302;l0201;p001;");
         Check.due("he does it not now, but would", g.when(0, 0), -9);
         Check.due("the greatest with which he would", g.latest(0, 0), 2);

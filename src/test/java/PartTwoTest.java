@@ -354,6 +354,9 @@ public final class PartTwoTest {
         g = Check.gate("l5000;p001;t00;");
         Check.due("THE TRAY stays as it is", g.onTray(0), 1);
         Check.due("without PEOPLE", Check.gate("l5000;").tray(1), 0);
+        g = Check.gate("l1001;p001;p000;t00;");
+        Check.due("0 for one of two", g.tray(1), 1);
+        Check.due("0 for the one", g.onTray(0), 1);
     }
 
     private static void guard() {
@@ -372,6 +375,10 @@ public final class PartTwoTest {
         Check.due("none", g.guard(0, 1), 8);
         g = Check.gate("l3014;p000;");
         Check.due("the striker may bring none", g.guard(0, 0), 1);
+        g = Check.gate("l1004;p000;");
+        Check.due("the striker may bring 0", g.guard(0, 0), 1);
+        g = Check.gate("l1074;p000;");
+        Check.due("the striker may bring 7", g.guard(0, 0), 1);
         g = Check.gate("l1014;p002;");
         Check.due("what was taken can't be brought", g.guard(0, 0), 0);
         Check.due("it is taken", g.guard(0, 1), 1);
@@ -385,6 +392,10 @@ public final class PartTwoTest {
         Check.due("there and back", g.rounds(), 2);
         Check.due("the DAY stays", g.count(2), 0);
         Check.due("POCKETS stay", g.pockets(1), 1);
+        // One comes round in 12 DAYS, another in 5; the others are one DAY from that.
+        String wheels = "l2424;l5462;l2714;l2436;l1623;l5713;l2654;l3270;l2861;l2803;";
+        Check.due("round in 60", Check.gate(wheels + "p148;p039;p021;").rounds(), 60);
+        Check.due("round in 61", Check.gate(wheels + "p132;p006;p012;").rounds(), -9);
         Check.due("all of them at once", Check.gate("l2001;l0823;p001;p004;").rounds(), 3);
     }
 
