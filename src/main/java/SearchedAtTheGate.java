@@ -3,6 +3,7 @@ import java.util.Arrays;
 /** People searched at the gate: what they do in a day by laws of kinds, and what would be otherwise. */
 public final class SearchedAtTheGate {
     private static final int NONE = -9;
+    private static final int NO_FAULT = -1;
     private static final int NOBODY = -1;
     private static final int OTHER = -2;
     private static final int STATE = -3;
@@ -70,9 +71,14 @@ public final class SearchedAtTheGate {
     }
 
     public int mill() {
-        int answer = letters.grind(now);
-        if (answer > 0) past.forget();
-        return answer;
+        int form = letters.faultOfForm();
+        int sense = form == NO_FAULT ? letters.faultOfSense(now) : NO_FAULT;
+        letters.wipe();
+        if (form != NO_FAULT) return -1000 - form;
+        if (sense != NO_FAULT) return -2000 - sense;
+        letters.handOver(now);
+        past.forget();
+        return letters.statementsTold();
     }
 
     public int lawOf(int law, int what) {
@@ -462,11 +468,11 @@ public final class SearchedAtTheGate {
 
     /** The bit of a THING; of 8 and 9, which are none, no bit. */
     private static int thingBit(int thing) {
-        return isThing(thing) ? 1 << thing : 0;
+        return thing >= 0 && thing < THINGS ? 1 << thing : 0;
     }
 
     private static boolean hasThing(int pockets, int thing) {
-        return (pockets & thingBit(thing)) != 0;
+        return thing >= 0 && thing < THINGS && (pockets & (1 << thing)) != 0;
     }
 
     /** Sets are looked at from the least on, so that one with as many THINGS does not replace it. */
@@ -573,7 +579,8 @@ public final class SearchedAtTheGate {
         }
 
         int lawPart(int law, int part) {
-            return cell(parts, law * PARTS + part);
+            int place = law * PARTS + part;
+            return place >= 0 && place < parts.length ? parts[place] : 0;
         }
 
         void setLawPart(int law, int part, int value) {
@@ -628,7 +635,7 @@ public final class SearchedAtTheGate {
         int passDay(Course course) {
             int done = 0;
             for (int person = 0; person < people; person++) {
-                done += course.countDone(this, pocketsOf(person));
+                done += Integer.bitCount(course.run(this, pocketsOf(person), 0));
                 put(pockets, person, course.pocketsAtEnd());
             }
             dayNumber++;
@@ -643,21 +650,24 @@ public final class SearchedAtTheGate {
             return NONE;
         }
 
+        /** Asked most of all, so it reads the cells of the LAW by itself. */
         private boolean holds(int law, int hour, int has) {
-            if (hour < lawPart(law, FIGURE)) return false;
-            boolean wanted = hasThing(has, lawPart(law, WANTED));
-            switch (lawPart(law, KIND)) {
+            int first = law * PARTS;
+            if (first < 0 || first + GIVEN >= parts.length || hour < parts[first + FIGURE]) return false;
+            boolean wanted = (has & (1 << parts[first + WANTED])) != 0;
+            boolean given = (has & (1 << parts[first + GIVEN])) != 0;
+            switch (parts[first + KIND]) {
                 case LAW:
                 case CHAIN:
                     return wanted;
                 case EITHER:
-                    return wanted || hasThing(has, lawPart(law, GIVEN));
+                    return wanted || given;
                 case WITHOUT:
                     return !wanted;
                 case TEMPER:
                     return wanted && hour % 2 == 0;
                 case DUST:
-                    return lying != 0 && (wanted || hasThing(has, lawPart(law, GIVEN)));
+                    return (wanted || given) && lying != 0;
                 default:
                     return false;
             }
@@ -798,7 +808,6 @@ public final class SearchedAtTheGate {
     private static final class Letters {
         private static final int MOST = 96;
         private static final int NEW_STATEMENT = -1;
-        private static final int NO_FAULT = -1;
         private final int[] text = new int[MOST];
         private final World trial = new World();
         private final Course course = new Course();
@@ -819,22 +828,20 @@ public final class SearchedAtTheGate {
             return size;
         }
 
-        /** The world is changed only if the whole MILL is without FAULT. */
-        int grind(World world) {
-            int place = faultOfForm();
-            int answer = -1000 - place;
-            if (place == NO_FAULT) {
-                trial.copyFrom(world);
-                place = faultOfSense();
-                answer = -2000 - place;
-            }
+        void wipe() {
             size = 0;
-            if (place != NO_FAULT) return answer;
-            world.copyFrom(trial);
+        }
+
+        int statementsTold() {
             return statements;
         }
 
-        private int faultOfForm() {
+        /** Only a MILL without FAULT is handed over: what came of it came on trial. */
+        void handOver(World world) {
+            world.copyFrom(trial);
+        }
+
+        int faultOfForm() {
             int digitsLeft = NEW_STATEMENT;
             for (int place = 0; place < size; place++) {
                 int letter = cell(text, place);
@@ -869,7 +876,8 @@ public final class SearchedAtTheGate {
             }
         }
 
-        private int faultOfSense() {
+        int faultOfSense(World world) {
+            trial.copyFrom(world);
             statements = 0;
             int place = 0;
             // Each statement takes two letters or more.
@@ -895,7 +903,9 @@ public final class SearchedAtTheGate {
                     trial.emptyTray();
                     return true;
                 default:
-                    return dayGoes();
+                    if (trial.dayNumber() >= LAST_DAY) return false;
+                    trial.passDay(course);
+                    return true;
             }
         }
 
@@ -924,12 +934,6 @@ public final class SearchedAtTheGate {
         private boolean isBrought(int person, int thing) {
             if (!trial.isPerson(person) || !isThing(thing)) return false;
             trial.bringIn(person, thing);
-            return true;
-        }
-
-        private boolean dayGoes() {
-            if (trial.dayNumber() >= LAST_DAY) return false;
-            trial.passDay(course);
             return true;
         }
     }
@@ -1247,6 +1251,7 @@ public final class SearchedAtTheGate {
     /** What is asked of several, or of all. */
     private static final class Folk {
         private static final int MOST_ROUNDS = 60;
+        private static final int WITHOUT_SIGN = 0x7fffffff;
         private final Course course = new Course();
         private final World later = new World();
         private final long[] states = new long[MOST_ROUNDS + 1];
@@ -1413,7 +1418,7 @@ public final class SearchedAtTheGate {
             for (int morning = 0; morning < mornings; morning++) {
                 for (int person = 0; person < world.peopleCount(); person++) {
                     z = z * 1103515245 + 12345;
-                    int thing = ((z & Integer.MAX_VALUE) >>> 16) % THINGS;
+                    int thing = ((z & WITHOUT_SIGN) >>> 16) % THINGS;
                     int pockets = world.pocketsOf(person);
                     if (hasThing(pockets, thing)) taken++;
                     done += course.countDone(world, pockets & ~thingBit(thing));
