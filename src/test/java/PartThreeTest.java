@@ -170,6 +170,7 @@ public final class PartThreeTest {
         Check.due("safe(1)", g.safe(1), 0);
         Check.due("safe(2)", g.safe(2), -1);
         Check.due("safe(-1)", g.safe(-1), -1);
+        Check.due("0 is safe", Check.gate("l1014;p003;").safe(0), 1);
         Check.due("a LAW more is not the same", Check.gate("l3004;p001;").safe(0), 0);
         Check.due("a later HOUR is not the same", Check.gate("l1014;l1121;p006;").safe(0), 0);
     }

@@ -4,6 +4,9 @@ public final class PartTwoTest {
     private static final String TWO_LOCKS = "l3014;l3245;l3034;";
     private static final String TWO_CHAINS = "l1012;l1034;";
 
+    /** Each of the LAWS wants a THING of its own. */
+    private static final String EIGHT = "l1000;l1011;l1022;l1033;l1044;l1055;l1066;l1077;";
+
     public static void main(String[] args) {
         kinds();
         hours();
@@ -170,6 +173,7 @@ public final class PartTwoTest {
         Check.due("allStopped(0, -1)", g.allStopped(0, -1), -4);
         Check.due("allStopped(1, -1)", g.allStopped(1, -1), -1);
         Check.due("without LAWS", Check.gate("p001;").allStopped(0, 0), 0);
+        Check.due("all eight have to go", Check.gate(EIGHT + "p255;").allStopped(0, 255), 255);
         Check.due("a set without LAWS", Check.gate("p001;").allStopped(0, 1), -6);
     }
 
@@ -193,6 +197,10 @@ public final class PartTwoTest {
         g = Check.gate("l2001;p003;");
         Check.due("all of them alone", g.agrees(0, 0), 1);
         Check.due("all of them", g.agrees(0, 1), 3);
+        // EITHER of a THING and the same: it is gone.
+        g = Check.gate("l2000;l2011;l2022;l2033;l2044;l2055;l2066;l2077;p255;");
+        Check.due("all eight alone", g.agrees(0, 0), 1);
+        Check.due("all eight", g.agrees(0, 1), 255);
     }
 
     private static void bring() {
@@ -223,6 +231,10 @@ public final class PartTwoTest {
         Check.due("chains: empty(0)", g.empty(0), 0);
         Check.due("chains: empty(1)", g.empty(1), 10);
         Check.due("chains: empty(2)", g.empty(2), 2);
+        g = Check.gate(EIGHT);
+        Check.due("eight: empty(0)", g.empty(0), 0);
+        Check.due("eight: empty(1)", g.empty(1), 255);
+        Check.due("eight: empty(2)", g.empty(2), 8);
     }
 
     /** What all that is asked of a ROW refuses. */
@@ -257,6 +269,10 @@ public final class PartTwoTest {
         }
         Check.due("had(2)", g.had(2), -2);
         Check.due("had(-1)", g.had(-1), -2);
+        Check.row(g, 98);
+        Check.due("had(0) by a number that is no LAW", g.had(0), -3);
+        g.clear();
+        Check.due("had(0) without it", g.had(0), 256);
     }
 
     private static void inIt() {
@@ -294,7 +310,7 @@ public final class PartTwoTest {
         Check.due("feel(1) of none", g.feel(1), -9);
         Check.due("feel(2)", g.feel(2), -2);
         Check.due("feel(-1)", g.feel(-1), -2);
-        g = Check.gate("l1000;l1011;l1022;l1033;l1044;l1055;l1066;l1077;");
+        g = Check.gate(EIGHT);
         Check.row(g, 0, 1, 2, 3, 4, 5, 6);
         Check.due("feel(0) of two", g.feel(0), 7);
         Check.due("feel(1) of two", g.feel(1), 1);
@@ -377,6 +393,8 @@ public final class PartTwoTest {
         Check.due("the striker may bring none", g.guard(0, 0), 1);
         g = Check.gate("l1004;p000;");
         Check.due("the striker may bring 0", g.guard(0, 0), 1);
+        g = Check.gate("l1004;p003;");
+        Check.due("0 is taken", g.guard(0, 1), 0);
         g = Check.gate("l1074;p000;");
         Check.due("the striker may bring 7", g.guard(0, 0), 1);
         g = Check.gate("l1014;p002;");
@@ -429,8 +447,9 @@ public final class PartTwoTest {
     private static void judge() {
         SearchedAtTheGate g = Check.gate("l1001;l1312;p001;");
         int[][] rows = {{}, {0, 99, 99, 1}, {0, 1}, {99}, {0, 99, 99, 50}, {0, 99, 99, 1, 99, 99, 99, 99, 99, 99, 99, 99},
+            {0, 99, 99, 1, 99, 99, 99, 99, 99, 99, 99, 99, 0}, {0, 99, 99, 1, 99, 99, 99, 99, 99, 99, 99, 99, 1, 0},
             {0, 99, 99, 1, 99, 99, 99, 99, 99, 99, 99, 99, 99}, {0, 99, 99, 1, 99, 99, 99, 99, 99, 99, 99, 99, 99, 0, 0, 0}};
-        int[] wrong = {-9, -9, 1, 0, 3, -9, 12, 12};
+        int[] wrong = {-9, -9, 1, 0, 3, -9, 12, 12, 12, 12};
         for (int i = 0; i < rows.length; i++) {
             Check.row(g, rows[i]);
             Check.due("judge(1)", g.judge(1), -1);
