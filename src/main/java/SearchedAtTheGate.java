@@ -321,7 +321,7 @@ public final class SearchedAtTheGate {
         return alone.latestFigure(now, now.pocketsOf(person), law);
     }
 
-    // ---- IV ----
+    // ---- IV: other laws, things, orders and days ----
 
     public int needed(int person, int law) {
         if (!now.isPerson(person) || !now.isLaw(law)) return refuse(NOBODY);
