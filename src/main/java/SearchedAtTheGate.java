@@ -1021,16 +1021,12 @@ public final class SearchedAtTheGate {
             return Math.min(with, size - with);
         }
 
-        /** A thing that all have, or all have not, parts none of them. */
+        /** A thing that all have, or all have not, parts them too: the lesser part is of none. */
         int evenestThing() {
-            int best = NONE;
-            int greatest = 0;
-            for (int thing = 0; thing < THINGS; thing++) {
-                int lesser = lesserPart(thing);
-                if (lesser > greatest) {
-                    greatest = lesser;
-                    best = thing;
-                }
+            if (size == 0) return NONE;
+            int best = 0;
+            for (int thing = 1; thing < THINGS; thing++) {
+                if (lesserPart(thing) > lesserPart(best)) best = thing;
             }
             return best;
         }

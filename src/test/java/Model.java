@@ -456,7 +456,7 @@ public final class Model {
         if (not(what, 1)) return no(-2);
         if (badRow()) return no(-3);
         List<TreeSet<Integer>> all = guesses();
-        if (all.size() < 2) return -9;
+        if (all.isEmpty()) return -9;
         ToIntFunction<Integer> lesser = t -> {
             int with = (int) all.stream().filter(p -> p.contains(t)).count();
             return Math.min(with, all.size() - with);

@@ -316,8 +316,17 @@ public final class PartTwoTest {
         Check.due("feel(1) of two", g.feel(1), 1);
         g.row(7);
         Check.due("one alone", g.had(0), 1);
-        Check.due("feel(0) of one", g.feel(0), -9);
-        Check.due("feel(1) of one", g.feel(1), -9);
+        Check.due("feel(0) of one", g.feel(0), 0);
+        Check.due("feel(1) of one", g.feel(1), 0);
+        Check.due("the ROW stays", g.count(7), 8);
+        Check.due("nothing is refused", g.count(11) + g.count(12) + g.count(13), 0);
+        // Whoever does nothing has 5, and none of the others: one POCKETS, parted into one and none.
+        g = Check.gate("l1000;l1011;l1022;l1033;l1044;l1066;l1077;l3055;");
+        Check.row(g, 99);
+        Check.due("had(0) of 5 alone", g.had(0), 1);
+        Check.due("had(1) of 5 alone", g.had(1), 32);
+        Check.due("feel(0) of 5 alone", g.feel(0), 0);
+        Check.due("feel(1) of 5 alone", g.feel(1), 0);
     }
 
     private static void which(SearchedAtTheGate g, int law, int kinds, int figures, int wanteds) {
