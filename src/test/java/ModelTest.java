@@ -54,8 +54,14 @@ public final class ModelTest {
     }
 
     private void begin() throws ReflectiveOperationException {
-        int laws = random.nextInt(11);
-        for (int i = 0; i < laws; i++) both("law", random.nextInt(6), random.nextInt(random.nextBoolean() ? 10 : 3), thing() * 10 + thing());
+        int laws = random.nextInt(3) == 0 ? 10 : random.nextInt(11);
+        // Where each LAW wants a THING of its own, a ROW may tell just one POCKETS.
+        boolean isTelling = random.nextInt(3) == 0;
+        for (int i = 0; i < laws; i++) {
+            int kind = isTelling && random.nextInt(10) > 0 ? 1 + 2 * random.nextInt(2) : random.nextInt(6);
+            int things = isTelling ? i % 8 * 11 : thing() * 10 + thing();
+            both("law", kind, random.nextInt(random.nextBoolean() ? 10 : 3), things);
+        }
         int people = random.nextInt(7);
         for (int i = 0; i < people; i++) both("person", random.nextInt(256));
     }
@@ -98,13 +104,16 @@ public final class ModelTest {
     private void tellRow() throws ReflectiveOperationException {
         both("clear");
         int laws = model.count(0);
-        int numbers = random.nextInt(random.nextInt(6) == 0 ? 17 : 6);
+        // Long ROWS leave few POCKETS, or one alone, or none; short ones many.
+        int numbers = random.nextInt(2) == 0 ? random.nextInt(6) : random.nextInt(6) == 0 ? random.nextInt(17) : 6 + random.nextInt(7);
         int start = random.nextInt(Math.max(1, model.count(1)));
         boolean isSo = model.count(1) > 0 && random.nextInt(4) > 0;
         for (int hour = 0; hour < numbers; hour++) {
             int law = isSo && hour < 12 ? model.at(start, hour, 0) : random.nextInt(laws + 2) - 1;
             both("row", law < 0 ? 99 : law);
         }
+        both("had", 0);
+        both("feel", random.nextInt(2));
     }
 
     private int argument(char kind) {
