@@ -1,17 +1,27 @@
 /** Counts and prints the answers that are not as due, and tells worlds in a few words. */
 final class Check {
     private static final long REFUSED = 4000000000000000000L;
+    private static String about = "";
     private static int calls = 0;
     private static int wrong = 0;
 
     private Check() {
     }
 
+    /** What is printed ahead of an answer that is not as due. */
+    static void about(String test) {
+        about = test + ": ";
+    }
+
+    static int calls() {
+        return calls;
+    }
+
     static void due(String what, long got, long want) {
         calls++;
         if (got == want) return;
         wrong++;
-        System.out.println(what + " answered " + got + ", due is " + want);
+        System.out.println(about + what + " answered " + got + ", due is " + want);
     }
 
     /** What a call with a long answers when it refuses with this number. */
@@ -32,6 +42,7 @@ final class Check {
     /** A new object with a mill told, which has to be without fault. */
     static SearchedAtTheGate gate(String mill) {
         SearchedAtTheGate gate = new SearchedAtTheGate();
+        if (mill.isEmpty()) return gate;
         int statements = (int) mill.chars().filter(c -> c == ';').count();
         due("the mill " + mill, tell(gate, mill), statements);
         return gate;
