@@ -189,6 +189,11 @@ final class EdgesBeside {
         key(Edges.EIGHT + "p012;p012;", 2, 2);
     }
 
+    static void promise36OneIsTakenInAnyCase() {
+        // Whichever is taken, a LAW more is done than by all as they are.
+        key("l3000;l3011;l3022;l3033;l3044;l3055;l3066;l3077;p255;", 0, 1);
+    }
+
     static void promise36NobodyHasIt() {
         key("l3004;p254;p254;", 0, 2);
         key("l3001;p001;p001;", 1, 0);

@@ -84,6 +84,15 @@ final class EdgesOfSets {
         Edges.stays("allStopped(0, 10)", -9, WORLD, g -> g.allStopped(0, 10));
     }
 
+    static void promise19OfSeveralTheLeast() {
+        Check.due("0 or 1", Check.gate("l3004;l3014;l3845;p003;").allStopped(0, 4), 1);
+        Check.due("6 or 7", Check.gate("l3061;l3071;l3810;p192;").allStopped(0, 4), 64);
+    }
+
+    static void promise19TheFewestAheadOfTheLeast() {
+        Check.due("4 ahead of 3", Check.gate("l1003;l1013;l3124;l4345;l1537;p007;").allStopped(0, 16), 4);
+    }
+
     static void promise19NoneOfThemIsDone() {
         Edges.stays("allStopped(1, 6)", 0, WORLD, g -> g.allStopped(1, 6));
     }

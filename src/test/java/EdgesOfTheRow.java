@@ -116,7 +116,10 @@ final class EdgesOfTheRow {
             Check.row(g, rows[i]);
             for (int again = 0; again < 3; again++) {
                 Check.due("had(0) by " + Arrays.toString(rows[i]), g.had(0), many[i]);
-                Check.due("inIt(0, 0) by " + Arrays.toString(rows[i]), g.inIt(0, 0), many[i] == 0 ? 0 : 1);
+                for (int thing = 0; thing < 8; thing++) {
+                    String call = "inIt(" + thing + ", 1) by " + Arrays.toString(rows[i]);
+                    Check.due(call, g.inIt(thing, 1), world(TWO_CHAINS, rows[i]).get().inIt(thing, 1));
+                }
                 Check.due("feel(1) by " + Arrays.toString(rows[i]), g.feel(1), many[i] == 0 ? -9 : many[i] / 2);
             }
             Check.due("count(7)", g.count(7), rows[i].length);

@@ -73,6 +73,15 @@ final class EdgesOfTheTray {
         tray("l1000;l1011;l1022;p004;p006;p007;", "t02;t11;t20;", 7, 3);
     }
 
+    /** Each call asks anew: what was found ahead of it is no more. */
+    static void promise27AskedAgain() {
+        SearchedAtTheGate g = world(Edges.EIGHT, FULL_TRAY + "p000;".repeat(5)).get();
+        Check.due("tray(1)", g.tray(1), 6);
+        Check.due("tray(1) again", g.tray(1), 6);
+        g.clears();
+        Check.due("tray(1) of an empty TRAY", g.tray(1), 0);
+    }
+
     static void promise27Refused() {
         for (int what : new int[] {-1, 2, MIN, MAX}) {
             Edges.refused("tray(" + what + ")", -2, Edges::some, g -> g.tray(what));
